@@ -477,7 +477,7 @@ public final class ExtentShelf {
     }
 
     private void commitDraft() {
-        // A table that an absent disk may hold has a number that is 1 more: 2 more goes beyond it.
+        // An absent disk may hold a change that was cut off, with a number that is 1 more: 2 more is beyond it.
         draft.seal(table.serial() + (isAnyListedAbsent() ? 2 : 1));
         for (int d = 0; d < DISKS; d++) {
             if (isTableFor(draft, d)) {

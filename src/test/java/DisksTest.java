@@ -4,6 +4,7 @@ public final class DisksTest {
         promise1NewObject();
         promise2AddLists();
         promise2AddClearsExtents();
+        promise2AddClearsNoOtherDisk();
         promise2AddRefuses();
         promise3RemoveListsNoMore();
         promise3RemoveEndsAMove();
@@ -79,6 +80,31 @@ public final class DisksTest {
         Check.due("the extents are 0 before the change", () -> y.look(0, 2, 0), 0);
         Check.due("start()", y::start, 5);
         Check.due("free(0): it was not listed", () -> y.free(0), -1);
+    }
+
+    private static void promise2AddClearsNoOtherDisk() {
+        for (int d = 0; d < 4; d++) {
+            ExtentShelf x = Shelves.with(8, 8, 8, 8);
+            for (int v = 0; v < 4; v++) {
+                x.make(0, 1, 5);
+                for (int w = 0; w < 20; w++) {
+                    x.write(v, w, 1 + w);
+                }
+            }
+            for (int v = 0; v < 4; v++) {
+                x.delete(v);
+            }
+            String[] before = new String[4];
+            for (int i = 0; i < 4; i++) {
+                before[i] = Shelves.words(x, i, 2);
+            }
+            x.remove(d);
+            x.add(d, 2);
+            for (int i = 0; i < 4; i++) {
+                Check.same("extents of " + i + " after add(" + d + ", 2)", Shelves.words(x, i, 2),
+                        i == d ? "0 ".repeat(32) : before[i]);
+            }
+        }
     }
 
     private static void promise2AddRefuses() {

@@ -1,3 +1,5 @@
+import java.util.function.Consumer;
+
 /** Promises 5 to 9, 15 and 16: volumes that are made, grow, shrink, go, and are mended. */
 public final class VolumesTest {
     public static void main(String[] args) {
@@ -17,6 +19,7 @@ public final class VolumesTest {
         promise9MendWithBothLegsGone();
         promise9MendInAMove();
         promise9MendRefuses();
+        nothingStaysOfARefusedCall();
         promise15Volume();
         promise16Where();
         Check.end();
@@ -332,6 +335,46 @@ public final class VolumesTest {
         String lost = Shelves.all(y);
         Check.unsupported("mend(0): room for one of two", () -> y.mend(0));
         Check.same("none of them is mended", Shelves.all(y), lost);
+    }
+
+    /** A volume 1 finds no room for its last leg; whatever is changed then, nothing of it is there. */
+    private static void nothingStaysOfARefusedCall() {
+        afterARefusedMake("add(2, 2)", x -> x.add(2, 2));
+        afterARefusedMake("remove(1)", x -> x.remove(1));
+        afterARefusedMake("grow(0, 1)", x -> x.grow(0, 1));
+        afterARefusedMake("shrink(0, 1)", x -> x.shrink(0, 1));
+        afterARefusedMake("delete(0)", x -> x.delete(0));
+        afterARefusedMake("drop(1)", x -> {
+            Shelves.takeOut(x, 1);
+            x.drop(1);
+        });
+        afterARefusedMake("a move", x -> {
+            x.empty(0);
+            for (int i = 0; i < 4; i++) {
+                x.step();
+            }
+            Check.due("where(0, 0, 0) after a move", () -> x.where(0, 0, 0), 8);
+        });
+        afterARefusedMake("the last step of a move", x -> {
+            x.empty(0);
+            for (int i = 0; i < 3; i++) {
+                x.step();
+            }
+            Check.unsupported("make(2, 1, 3) in a move", () -> x.make(2, 1, 3));
+            x.step();
+        });
+    }
+
+    private static void afterARefusedMake(String name, Consumer<ExtentShelf> change) {
+        ExtentShelf x = Shelves.with(8, 2);
+        x.make(0, 1, 2);
+        Check.unsupported("make(2, 1, 3)", () -> x.make(2, 1, 3));
+        int number = x.number();
+        change.accept(x);
+        Check.same(name + " is a change", String.valueOf(x.number() > number), "true");
+        Check.noElement("volume(1, 0) after " + name, () -> x.volume(1, 0));
+        Check.due("its word in the tables", () -> Math.max(x.look(0, 0, 6), x.look(0, 1, 6)), 0);
+        Check.due("its leg in the tables", () -> Math.max(x.look(0, 0, 19), x.look(0, 1, 19)), 0);
     }
 
     private static void promise15Volume() {
