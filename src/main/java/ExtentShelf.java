@@ -301,7 +301,7 @@ public final class ExtentShelf {
         powerOn = true;
         loadNewestTable();
         for (int d = 0; d < DISKS; d++) {
-            if (isTableFor(table, d) && !disks.hasWhole(d, table.serial())) {
+            if (isListedAndPresent(table, d) && !disks.hasWhole(d, table.serial())) {
                 writeTable(table, d);
             }
         }
@@ -383,7 +383,7 @@ public final class ExtentShelf {
 
     private boolean isAnyListedPresent() {
         for (int d = 0; d < DISKS; d++) {
-            if (isTableFor(table, d)) {
+            if (isListedAndPresent(table, d)) {
                 return true;
             }
         }
@@ -480,7 +480,7 @@ public final class ExtentShelf {
         // An absent disk may hold a change that was cut off, with a number that is 1 more: 2 more is beyond it.
         draft.seal(table.serial() + (isAnyListedAbsent() ? 2 : 1));
         for (int d = 0; d < DISKS; d++) {
-            if (isTableFor(draft, d)) {
+            if (isListedAndPresent(draft, d)) {
                 writeTable(draft, d);
             }
         }
@@ -490,7 +490,7 @@ public final class ExtentShelf {
         }
     }
 
-    private boolean isTableFor(Table t, int d) {
+    private boolean isListedAndPresent(Table t, int d) {
         return t.lists(d) && !disks.isAbsent(d);
     }
 
@@ -525,7 +525,7 @@ public final class ExtentShelf {
         int most = 0;
         for (int d = 0; d < DISKS; d++) {
             int free = countFree(draft, d);
-            if (isTableFor(draft, d) && (allBarred >> d & 1) == 0 && free > most) {
+            if (isListedAndPresent(draft, d) && ((allBarred >> d) & 1) == 0 && free > most) {
                 best = d;
                 most = free;
             }
@@ -564,7 +564,7 @@ public final class ExtentShelf {
     }
 
     private static int bitOfDisk(int spot) {
-        return spot == NONE ? 0 : 1 << spot / PLACES;
+        return spot == NONE ? 0 : 1 << (spot / PLACES);
     }
 
     private void giveRoom(int v, int e, int l) {
