@@ -47,8 +47,25 @@ final class Check {
         asked++;
         if (!got.equals(want)) {
             wrong++;
-            System.out.println(call + " answered " + got + ", due is " + want);
+            int at = Math.max(0, firstDifference(got, want) - 40);
+            System.out.println(call + " answered " + part(got, at) + ", due is " + part(want, at));
         }
+    }
+
+    private static int firstDifference(String a, String b) {
+        int i = 0;
+        while (i < a.length() && i < b.length() && a.charAt(i) == b.charAt(i)) {
+            i++;
+        }
+        return i;
+    }
+
+    /** A long text would hide where it differs. */
+    private static String part(String text, int at) {
+        if (text.length() <= 100 && at <= 60) {
+            return text;
+        }
+        return ".." + text.substring(at, Math.min(text.length(), at + 100)) + ".. (from " + at + " on)";
     }
 
     /** The answer as text, or the simple name of the very class that is thrown. */
@@ -60,7 +77,7 @@ final class Check {
         }
     }
 
-    private static String outcome(Runnable action) {
+    static String outcome(Runnable action) {
         return outcome(() -> {
             action.run();
             return "done";

@@ -51,6 +51,27 @@ final class Shelves {
         return text.toString();
     }
 
+    /**
+     * All that can be seen, now and in what a shelf answers then to a run of calls: that tells also how far a copy is,
+     * how many words a cut leaves and which disks are present. The same text means that the shelves are the same.
+     */
+    static String story(ExtentShelf x) {
+        StringBuilder text = new StringBuilder(all(x));
+        for (int i = 0; i < 3; i++) {
+            text.append(Check.outcome(() -> String.valueOf(x.step()))).append(' ').append(all(x));
+        }
+        for (int i = 1; i <= 70; i++) {
+            int value = i;
+            text.append(Check.outcome(() -> String.valueOf(x.write(0, 0, value)))).append(' ');
+        }
+        text.append(all(x)).append(Check.outcome(x::off)).append(' ');
+        for (int d = 0; d < 4; d++) {
+            int disk = d;
+            text.append(Check.outcome(() -> String.valueOf(x.plug(disk, true)))).append(' ');
+        }
+        return text.append(Check.outcome(() -> String.valueOf(x.start()))).append(' ').append(all(x)).toString();
+    }
+
     /** Where the legs of a volume are, element by element. */
     static String legs(ExtentShelf x, int v) {
         StringBuilder text = new StringBuilder();
