@@ -120,7 +120,8 @@ public final class RandomRunsTest {
                 int columns = below(20) == 0 ? about(0, 4) : kind == 1 ? 2 + below(2) : 1;
                 int elements = columns > 1 && below(8) > 0 ? columns : n;
                 return same(at + "make(" + kind + ", " + columns + ", " + elements + ")",
-                        () -> "" + program.make(kind, columns, elements), () -> "" + model.make(kind, columns, elements));
+                        () -> "" + program.make(kind, columns, elements),
+                        () -> "" + model.make(kind, columns, elements));
             case 2:
                 int more = about(1, 2);
                 return same(at + "grow(" + v + ", " + more + ")",
