@@ -11,11 +11,13 @@ public final class CallsEdgesTest {
         promise2ADiskThatWasDropped();
         promise3UpToTheLastDisk();
         promise3ADiskThatBecameFree();
+        promise3TheOnlyDiskOfAVolumeWithoutLegs();
         promise3AMoveOfItEnds();
         promise4NoLegsAndAll();
         promise4ThreeOfFourDisks();
         promise4AVolumeWithoutAnyLeg();
         promise5TheLeastNumberNotUsed();
+        promise5FourVolumesWithoutLegs();
         promise5AllWordsAre0();
         promise6UpToFiveElements();
         promise6WhatIsNewIs0();
@@ -25,6 +27,7 @@ public final class CallsEdgesTest {
         promise8TheLastVolume();
         promise9NothingToMend();
         promise9FiveElements();
+        promise9TheNextVolumeIsLeftAlone();
         promise9RoomForJustAllOfThem();
         promise9Leg0AndLeg1();
         promise9OnADiskThatIsBack();
@@ -185,6 +188,16 @@ public final class CallsEdgesTest {
         Check.due("and goes on", y::moving, 0);
     }
 
+    private static void promise3TheOnlyDiskOfAVolumeWithoutLegs() {
+        ExtentShelf x = Shelves.with(4, 2);
+        x.make(0, 1, 1);
+        Shelves.takeOut(x, 0);
+        x.drop(0);
+        Check.unsupported("remove(1): the only one, though no leg is on it", () -> x.remove(1));
+        Check.done("add(2, 2)", () -> x.add(2, 2));
+        Check.done("remove(1): there is another one", () -> x.remove(1));
+    }
+
     private static void promise3AMoveOfItEnds() {
         ExtentShelf x = Shelves.with(4, 3);
         x.empty(0);
@@ -258,6 +271,18 @@ public final class CallsEdgesTest {
             Check.due("volume(" + went + ", 2)", () -> x.volume(due, 2), 2);
             Check.unsupported("make(0, 1, 1): there are four again", () -> x.make(0, 1, 1));
         }
+    }
+
+    private static void promise5FourVolumesWithoutLegs() {
+        ExtentShelf x = Shelves.with(8, 2);
+        for (int v = 0; v < 4; v++) {
+            x.make(0, 1, 1);
+        }
+        Shelves.takeOut(x, 0);
+        Check.due("drop(0)", () -> x.drop(0), 4);
+        Check.unsupported("make(0, 1, 1): there are four still", () -> x.make(0, 1, 1));
+        x.delete(3);
+        Check.due("make(0, 1, 1)", () -> x.make(0, 1, 1), 3);
     }
 
     private static void promise5AllWordsAre0() {
@@ -394,6 +419,21 @@ public final class CallsEdgesTest {
         Check.same("disk 2 is as disk 1", Shelves.words(x, 2, 2), Shelves.words(x, 1, 2));
         Check.due("number()", x::number, 7);
         Check.due("mend(0) again", () -> x.mend(0), 0);
+    }
+
+    private static void promise9TheNextVolumeIsLeftAlone() {
+        ExtentShelf x = Shelves.with(5, 8, 8);
+        x.make(2, 1, 5);
+        x.make(0, 1, 2);
+        Check.due("mend(0) beside a linear one", () -> x.mend(0), 0);
+        Check.due("number()", x::number, 5);
+        Check.same("twins", Shelves.legs(x, 0), "8/16 9/17 10/18 0/11 19/1");
+        Check.same("linear", Shelves.legs(x, 1), "12/-1 20/-1 -1/-1 -1/-1 -1/-1");
+        Shelves.takeOut(x, 0);
+        Check.due("drop(0)", () -> x.drop(0), 2);
+        Check.due("mend(0)", () -> x.mend(0), 2);
+        Check.same("twins after it", Shelves.legs(x, 0), "8/16 9/17 10/18 21/11 19/13");
+        Check.same("linear after it", Shelves.legs(x, 1), "12/-1 20/-1 -1/-1 -1/-1 -1/-1");
     }
 
     private static void promise9RoomForJustAllOfThem() {
@@ -546,6 +586,16 @@ public final class CallsEdgesTest {
         Check.due("number()", x::number, 3);
         Check.same("nothing is copied", Shelves.words(x, 0, 2) + Shelves.words(x, 1, 2), words);
         Check.unsupported("step() again", x::step);
+        for (int extents = 2; extents <= 8; extents++) {
+            for (int d = 0; d < 4; d++) {
+                ExtentShelf bare = Shelves.with(extents, extents, extents, extents);
+                bare.empty(d);
+                Check.due("step() without volumes", bare::step, 0);
+                ExtentShelf two = Shelves.with(2, extents);
+                two.empty(d / 2);
+                Check.due("step() on two disks without volumes", two::step, 0);
+            }
+        }
     }
 
     private static void promise13TheLegsWentInTheMove() {

@@ -15,6 +15,7 @@ public final class RoomEdgesTest {
         whatIsCopiedToIsNotFree();
         aDiskThatTheTwinIsCopiedToIsLeftOut();
         aLegThatIsMovedIsNotFoundRoomOnItsDisk();
+        eachLegIsMovedAwayFromItsTwin();
         aLegThatIsGoneKeepsNoDisk();
         itIsReadOfTheLeastLegThatCanBe();
         itIsWrittenToAllLegsThatCanBe();
@@ -215,6 +216,24 @@ public final class RoomEdgesTest {
         one.make(0, 1, 1);
         one.empty(0);
         Check.due("step(): there is no other disk", one::step, -1);
+    }
+
+    /** The disk of the twins has always room, and mostly the most of it. */
+    private static void eachLegIsMovedAwayFromItsTwin() {
+        String[] due = {"16/9 17/10 3/11 -1/-1 -1/-1", "1/16 2/17 3/11 -1/-1 -1/-1"};
+        for (int d = 0; d < 2; d++) {
+            ExtentShelf x = Shelves.with(5, 5);
+            x.make(0, 1, 2);
+            x.make(2, 1, 3);
+            x.delete(0);
+            x.add(2, 2);
+            Check.same("twins", Shelves.legs(x, 1), "1/9 2/10 3/11 -1/-1 -1/-1");
+            Check.due("free() of the other disk", () -> Math.min(x.free(0), x.free(1)), 2);
+            x.empty(d);
+            steps(x, 2 * 4);
+            Check.same("two have moved", Shelves.legs(x, 1), due[d]);
+            Check.due("step(): only the disk of its twin has room", x::step, -1);
+        }
     }
 
     private static void aLegThatIsGoneKeepsNoDisk() {

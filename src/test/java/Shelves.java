@@ -31,7 +31,10 @@ final class Shelves {
         return x.start();
     }
 
-    /** Everything that can be seen of a shelf; the same text means that nothing has changed. */
+    /**
+     * Everything that can be seen of a shelf; the same text means that nothing has changed. It looks at every word,
+     * which goes beyond 512 calls: what is answered then the document leaves free, and the program answers as before.
+     */
     static String all(ExtentShelf x) {
         StringBuilder text = new StringBuilder();
         text.append(x.number()).append(' ').append(x.moving()).append(' ');
